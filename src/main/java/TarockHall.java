@@ -31,6 +31,8 @@ public final class TarockHall {
     private static final int DECLARERS = 0;
     private static final int OTHERS = 1;
     private static final int HALF_OF_THIRDS = 105;
+    private static final int PAGAT_POINTS = 25, PAGAT_POINTS_ANNOUNCED = 50;
+    private static final int KING_POINTS = 10, KING_POINTS_ANNOUNCED = 20;
 
     private final Deck deck;
     private final Bidding bidding;
@@ -403,29 +405,30 @@ public final class TarockHall {
         }
     }
 
+    // The pagat makes points also for the other side: who fails with it gives them to those it plays against.
     private int pagatPoints(int lastWinner) {
         int owner = trick.playerOf(PAGAT_CARD);
         boolean wins = owner == lastWinner;
         boolean ofDeclarers = owner != NONE && sideOf(owner) == DECLARERS;
         if (isAnnounced(PAGAT)) {
-            return wins && ofDeclarers ? 50 : -50;
+            return wins && ofDeclarers ? PAGAT_POINTS_ANNOUNCED : -PAGAT_POINTS_ANNOUNCED;
         }
         if (owner == NONE) {
             return 0;
         }
-        return wins == ofDeclarers ? 25 : -25;
+        return wins == ofDeclarers ? PAGAT_POINTS : -PAGAT_POINTS;
     }
 
     private int kingPoints(int lastWinner) {
         boolean inLastTrick = called != NONE && trick.playerOf(calledKing()) != NONE;
         boolean made = inLastTrick && sideOf(lastWinner) == DECLARERS;
         if (isAnnounced(KING)) {
-            return made ? 20 : -20;
+            return made ? KING_POINTS_ANNOUNCED : -KING_POINTS_ANNOUNCED;
         }
         if (!inLastTrick) {
             return 0;
         }
-        return made ? 10 : -10;
+        return made ? KING_POINTS : -KING_POINTS;
     }
 
     // ---- small questions about the deal
@@ -499,6 +502,7 @@ public final class TarockHall {
         return worth(card) < GREATEST_VALUE;
     }
 
+    // The levels 1 and 2 have two groups of three cards and three groups of two, the others six of one card.
     private static int groupSize(int level) {
         return level < LAST_KING_LEVEL ? 4 - level : 1;
     }
