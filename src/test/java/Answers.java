@@ -11,7 +11,7 @@ final class Answers {
         }
     }
 
-    /** All that the hall tells of itself, less canPlay, which follows from the rest: 63 calls. */
+    /** All that the hall tells of itself, less canPlay, which follows from the rest: 51 calls. */
     static String ofState(TarockHall hall) {
         StringBuilder text = new StringBuilder();
         text.append("phase ").append(hall.phase()).append(" turn ").append(hall.turn());
