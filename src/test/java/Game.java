@@ -106,7 +106,7 @@ final class Game {
         return (hand & tarocks) != 0 ? hand & tarocks : hand;
     }
 
-    private static int lowestToLayAway(long hand) {
+    static int lowestToLayAway(long hand) {
         long kept = setOf(7, 15, 23, 31, 32, 52, 53);
         return Long.numberOfTrailingZeros(hand & ~kept);
     }
