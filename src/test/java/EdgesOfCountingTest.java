@@ -141,7 +141,10 @@ public final class EdgesOfCountingTest {
 
     // ---- byPacks
 
-    /** Side 0 has 3 cards, 6 8 10 (4 + 1 + 1 - 2), and 6 cards, 0 1 2 and 3 6 8; side 1 has 6, 23 25 35 and 44 47 53. */
+    /**
+     * Side 0 has 3 cards, 6 8 10 (4 + 1 + 1 - 2), and 6 cards, 0 1 2 and 3 6 8; side 1 has 6, 23 25 35
+     * and 44 47 53.
+     */
     private static void threeCardsAreAPack() {
         EDGES.sentence("24: each three of them, from the lowest on, are a pack, whose points are their values, less 2");
         EDGES.shows(PLAY_1, "byPacks 0 4, byPacks 1 5");

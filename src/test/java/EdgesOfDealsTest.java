@@ -83,9 +83,9 @@ public final class EdgesOfDealsTest {
 
     private static void phaseIsNotOver() {
         EDGES.sentence("2: IllegalStateException if the phase is not OVER");
-        String[] notOver = {"deal 0", "deal 0 bid 0 0 0", LEVEL_1, LEVEL_4, LEVEL_1 + "call 0", LEVEL_1 + "call 0 take 0",
-            LEVEL_1 + "call 0 take 0 discard 0 6", LEVEL_1 + "call 0 take 0 discard 0 6 8", LEVEL_5, LEVEL_5 + "lowest 4",
-            LEVEL_5 + "lowest 47"};
+        String[] notOver = {"deal 0", "deal 0 bid 0 0 0", LEVEL_1, LEVEL_4, LEVEL_1 + "call 0",
+            LEVEL_1 + "call 0 take 0", LEVEL_1 + "call 0 take 0 discard 0 6", LEVEL_1 + "call 0 take 0 discard 0 6 8",
+            LEVEL_5, LEVEL_5 + "lowest 4", LEVEL_5 + "lowest 47"};
         for (String ahead : notOver) {
             EDGES.badState(ahead, "deal 0");
             EDGES.badState(ahead, "deal 65535");
@@ -283,9 +283,11 @@ public final class EdgesOfDealsTest {
 
     private static void allFourHavePassed() {
         EDGES.sentence("3: when all four have passed, the deal is OVER without scores");
-        EDGES.shows("deal 0 bid 0 0 0", "phase 1, bid 0 0, phase 0, turn -1, declarer -1, level 0, called -1, result 0");
+        EDGES.shows("deal 0 bid 0 0 0", "phase 1, bid 0 0, phase 0, turn -1, declarer -1, level 0, called -1, "
+            + "result 0");
         EDGES.shows("deal 0 bid 0 0 0 0", "score 0 0, score 1 0, score 2 0, score 3 0, radli 0 0, radli 3 0, tricks 0");
-        EDGES.shows("deal 0 bid 0 0 0 0", "thirds 0 0, thirds 1 0, byPacks 0 0, byPacks 1 0, knows 0 0 -1, knows 3 3 -1");
+        EDGES.shows("deal 0 bid 0 0 0 0", "thirds 0 0, thirds 1 0, byPacks 0 0, byPacks 1 0, knows 0 0 -1, "
+            + "knows 3 3 -1");
         EDGES.shows(PASSED.repeat(4) + "deal 0 bid 0 0 0 0", "phase 0, result 0, score 0 0, radli 0 0");
         EDGES.due(PASSED.repeat(3) + "deal 0 bid 0 0 0", "bid 0", TarockHall.OVER);
     }
@@ -309,5 +311,6 @@ public final class EdgesOfDealsTest {
         + "hand 2 504701606954252, hand 3 563232352322096";
     private static final String HANDS_OF_32768 = "hand 0 60198039856, hand 1 111051630724288, "
         + "hand 2 16765426323161602, hand 3 1129062114394125";
-    private static final String TALON_OF_65535 = "talonAt 0 29, talonAt 1 18, talonAt 2 15, talonAt 3 26, talonAt 4 39, talonAt 5 50";
+    private static final String TALON_OF_65535 = "talonAt 0 29, talonAt 1 18, talonAt 2 15, talonAt 3 26, "
+        + "talonAt 4 39, talonAt 5 50";
 }

@@ -140,7 +140,8 @@ public final class EdgesOfKnowsTest {
     }
 
     private static void kingAtEachPlaceOfATrick() {
-        EDGES.sentence("28: the called king is played as the first to the last card of a trick; just before, and as soon as");
+        EDGES.sentence("28: the called king is played as the first to the last card of a trick; just before, and as "
+            + "soon as");
         known("deal 57259 bid 0 0 0 3 call 3 take 0 discard 2 lowest 32", "1..0 .1.0 1100 ...0");
         known("deal 57259 bid 0 0 0 3 call 3 take 0 discard 2 lowest 33", "1100 1100 1100 1100");
         known("deal 16053 bid 0 0 0 3 call 3 take 1 discard 4 lowest 37", "1..0 .1.0 1100 ...0");

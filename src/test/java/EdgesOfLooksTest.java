@@ -74,8 +74,8 @@ public final class EdgesOfLooksTest {
             EDGES.due(bids + " call 0 take 0", "turn", declarer);
         }
         EDGES.shows("deal 0 bid 0 0 0 4", "phase 3, turn 3, take 0 1, turn 3, discard 3 0, turn 0");
-        EDGES.shows("deal 0 bid 0 0 1 0 call 0 take 0", "turn 2, discard 1 2, turn 2, discard 17 1, turn 2, discard 19 0, "
-            + "turn 0");
+        EDGES.shows("deal 0 bid 0 0 1 0 call 0 take 0", "turn 2, discard 1 2, turn 2, discard 17 1, turn 2, "
+            + "discard 19 0, turn 0");
     }
 
     private static void noTurnWhenOver() {
@@ -107,7 +107,8 @@ public final class EdgesOfLooksTest {
 
     private static void levelOfTheLatestDeal() {
         EDGES.sentence("13: the highest level that was bid in the latest deal");
-        EDGES.shows("deal 0", "bid 1 1, level 1, bid 0 1, level 1, bid 3 1, level 3, bid 5 1, level 5, bid 0 1, level 5");
+        EDGES.shows("deal 0", "bid 1 1, level 1, bid 0 1, level 1, bid 3 1, level 3, bid 5 1, level 5, bid 0 1, "
+            + "level 5");
         EDGES.shows("deal 0 bid 1 2 0 0 0", "level 2, phase 2, call 0 3, level 2, take 0 2, level 2");
         EDGES.due(LEVEL_5 + "lowest 48", "level", 5);
         EDGES.due(LEVEL_4 + "take 0 discard 0 lowest 48", "level", 4);
@@ -223,7 +224,8 @@ public final class EdgesOfLooksTest {
         for (String ahead : new String[] {"", "deal 0", PASSED, LEVEL_1, TAKEN_1, PLAY_1, LEVEL_5}) {
             EDGES.due(ahead, "inTrick", 0);
         }
-        EDGES.shows(LEVEL_5, "lowest 1 1, inTrick 1, lowest 1 1, inTrick 2, lowest 1 1, inTrick 3, lowest 1 1, inTrick 0");
+        EDGES.shows(LEVEL_5, "lowest 1 1, inTrick 1, lowest 1 1, inTrick 2, lowest 1 1, inTrick 3, lowest 1 1, "
+            + "inTrick 0");
         EDGES.shows(LEVEL_5 + "lowest 44", "inTrick 0, lowest 3 3, inTrick 3, lowest 1 1, inTrick 0");
         EDGES.due(LEVEL_5 + "lowest 48 deal 0", "inTrick", 0);
     }

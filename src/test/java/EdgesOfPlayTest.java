@@ -71,7 +71,8 @@ public final class EdgesOfPlayTest {
     private static void announcingOutsidePlaying() {
         EDGES.sentence("7: IllegalStateException if the phase is not PLAYING");
         String[] notPlaying = {"", "deal 0", PASSED, LEVEL_1, LEVEL_1 + "call 0", LEVEL_1 + "call 0 take 0",
-            LEVEL_1 + "call 0 take 0 discard 6 8", LEVEL_4, LEVEL_4 + "take 0", LEVEL_5 + "lowest 48", PLAY_1 + "lowest 48"};
+            LEVEL_1 + "call 0 take 0 discard 6 8", LEVEL_4, LEVEL_4 + "take 0", LEVEL_5 + "lowest 48",
+            PLAY_1 + "lowest 48"};
         for (String ahead : notPlaying) {
             EDGES.badState(ahead, "announce 0");
             EDGES.badState(ahead, "announce 1");
@@ -301,21 +302,24 @@ public final class EdgesOfPlayTest {
 
     private static void winnerLeadsTheNext() {
         EDGES.sentence("8: the winner of each trick leads the next one");
-        EDGES.shows(LEVEL_5, "play 8 -1, play 15 -1, play 32 -1, play 9 2, turn 2, play 0 throws.IllegalStateException, "
-            + "play 33 -1, turn 3, play 50 -1, turn 0, play 51 -1, turn 1, play 34 0, turn 0");
+        EDGES.shows(LEVEL_5, "play 8 -1, play 15 -1, play 32 -1, play 9 2, turn 2, "
+            + "play 0 throws.IllegalStateException, play 33 -1, turn 3, play 50 -1, turn 0, play 51 -1, turn 1, "
+            + "play 34 0, turn 0");
         EDGES.shows(LEVEL_5 + "lowest 3", "turn 3, play 3 3, turn 3, play 4 -1, turn 0, play 6 -1, turn 1");
     }
 
     private static void turnsGoRound() {
         EDGES.sentence("8: the players play in turn; 0 comes behind 3");
         EDGES.shows(LEVEL_5, "turn 0, lowest 1 1, turn 1, lowest 1 1, turn 2, lowest 1 1, turn 3");
-        EDGES.shows(PASSED + "deal 0 bid 5 0 0 0", "turn 1, lowest 1 1, turn 2, lowest 1 1, turn 3, lowest 1 1, turn 0");
+        EDGES.shows(PASSED + "deal 0 bid 5 0 0 0", "turn 1, lowest 1 1, turn 2, lowest 1 1, turn 3, lowest 1 1, "
+            + "turn 0");
         EDGES.shows(PASSED.repeat(3) + "deal 0 bid 5 0 0 0", "turn 3, lowest 1 1, turn 0, lowest 1 1, turn 1");
     }
 
     private static void winnerOrNone() {
         EDGES.sentence("8: returns the winner, if the trick is over by that; otherwise NONE");
-        EDGES.shows(LEVEL_5, "play 26 -1, play 24 -1, play 27 -1, play 29 3, play 7 -1, play 6 -1, play 5 -1, play 1 3");
+        EDGES.shows(LEVEL_5, "play 26 -1, play 24 -1, play 27 -1, play 29 3, play 7 -1, play 6 -1, play 5 -1, "
+            + "play 1 3");
         EDGES.due(LEVEL_5 + "lowest 43", "tricks", 10);
         EDGES.due(LEVEL_5 + "lowest 44", "tricks", 11);
     }
@@ -324,8 +328,8 @@ public final class EdgesOfPlayTest {
     private static void lastCardOfTheDeal() {
         EDGES.sentence("8: after 12 tricks the deal is OVER, and is scored");
         EDGES.shows(LEVEL_5 + "lowest 44", "phase 5, tricks 11, turn 3, play 14 -1, play 51 -1, play 30 -1, phase 5, "
-            + "tricks 11, result 0, score 0 0, radli 0 0, inTrick 3, play 49 0, phase 0, tricks 12, turn -1, inTrick 0, "
-            + "result -80, score 0 -80, score 1 0, radli 0 1, radli 3 1");
+            + "tricks 11, result 0, score 0 0, radli 0 0, inTrick 3, play 49 0, phase 0, tricks 12, turn -1, "
+            + "inTrick 0, result -80, score 0 -80, score 1 0, radli 0 1, radli 3 1");
         EDGES.badState(LEVEL_5 + "lowest 48", "play 49");
         EDGES.badState(LEVEL_5 + "lowest 47", "play 14");
     }
@@ -404,12 +408,12 @@ public final class EdgesOfPlayTest {
     }
 
     // The last trick of each lacks its last card: 10 7 27, 20 15 21, 2 22 23 and 30 20 15.
-    private static final String OTHER_SUITS_BESIDE_10 = "deal 1809 bid 5 0 0 0 play 49 53 37 51 48 44 36 41 33 39 50 35 "
-        + "45 34 23 38 14 15 1 12 10 7 27";
-    private static final String OTHER_SUITS_BESIDE_20 = "deal 657 bid 5 0 0 0 play 22 17 19 23 32 52 48 39 47 42 41 34 33 "
-        + "37 51 53 50 26 35 49 46 25 38 29 20 15 21";
-    private static final String HIGHER_SUITS_BESIDE_2 = "deal 476 bid 5 0 0 0 play 41 52 51 40 44 49 47 34 43 39 50 37 32 "
-        + "36 38 45 7 0 1 5 42 30 33 28 27 29 24 4 6 25 3 26 2 22 23";
-    private static final String LOWER_SUITS_BESIDE_30 = "deal 2106 bid 5 0 0 0 play 50 49 47 36 46 48 35 53 38 42 44 40 33 "
-        + "37 43 34 41 28 22 32 39 25 24 26 30 20 15";
+    private static final String OTHER_SUITS_BESIDE_10 = "deal 1809 bid 5 0 0 0 play 49 53 37 51 48 44 36 41 33 39 50 "
+        + "35 45 34 23 38 14 15 1 12 10 7 27";
+    private static final String OTHER_SUITS_BESIDE_20 = "deal 657 bid 5 0 0 0 play 22 17 19 23 32 52 48 39 47 42 41 "
+        + "34 33 37 51 53 50 26 35 49 46 25 38 29 20 15 21";
+    private static final String HIGHER_SUITS_BESIDE_2 = "deal 476 bid 5 0 0 0 play 41 52 51 40 44 49 47 34 43 39 50 "
+        + "37 32 36 38 45 7 0 1 5 42 30 33 28 27 29 24 4 6 25 3 26 2 22 23";
+    private static final String LOWER_SUITS_BESIDE_30 = "deal 2106 bid 5 0 0 0 play 50 49 47 36 46 48 35 53 38 42 44 "
+        + "40 33 37 43 34 41 28 22 32 39 25 24 26 30 20 15";
 }

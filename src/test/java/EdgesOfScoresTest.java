@@ -31,6 +31,7 @@ public final class EdgesOfScoresTest {
         withoutRadliNothingIsDoubled();
         radliDoubleAndGo();
         radliStayIfTheGameIsLost();
+        gameNotResultDecides();
         twoRadliDoubleOnce();
         radliOfOthersDoNotDouble();
         radliBehindTheLevels4And5();
@@ -205,6 +206,26 @@ public final class EdgesOfScoresTest {
             "thirds 0 105, result -160, radli 2 2, radli 0 2, radli 3 2, score 2 -240");
     }
 
+    /** Birds make the result of a game that is won negative or 0, and that of one that is lost positive or 0. */
+    private static void gameNotResultDecides() {
+        EDGES.sentence("26: if the game is won, the declarer loses one of them, whatever the result");
+        EDGES.shows(FIRST + "deal 49119 bid 0 1 0 0 call 3 take 1 discard 2 9 10 announce 0 lowest 6 play 34 lowest 7 "
+            + "play 37 lowest 6 play 41 lowest 2 play 43 lowest 4 play 46 lowest 2 play 47 lowest 3 play 48 lowest 5 "
+            + "play 51 lowest 5", "thirds 0 123, result -68, radli 2 0, radli 3 1, score 2 -148, score 3 -68");
+        EDGES.shows(FIRST + "deal 25554 bid 0 3 0 0 call 0 take 3 discard 6 announce 0 1 lowest 17 play 34 lowest 9 "
+            + "play 39 lowest 11 play 45 lowest 1 play 49 lowest 6", "thirds 0 154, result -48, radli 2 0, "
+            + "score 0 -48");
+        EDGES.shows(FIRST + "deal 20577 bid 0 4 0 0 take 4 discard 0 announce 0 lowest 21 play 41 lowest 7 play 43 "
+            + "lowest 18", "thirds 0 107, result 0, radli 2 1, radli 1 2");
+        EDGES.shows(FIRST + "deal 8924 bid 0 1 0 0 call 2 take 0 discard 2 10 12 announce 0 lowest 9 play 37 lowest 8 "
+            + "play 41 lowest 6 play 43 lowest 4 play 45 lowest 2 play 49 lowest 6 play 50 lowest 7",
+            "thirds 0 105, result 80, radli 2 1, score 2 0");
+        EDGES.shows(FIRST + "deal 47747 bid 0 1 0 0 call 1 take 1 discard 2 9 21 lowest 27 play 36 lowest 7 play 44 "
+            + "lowest 1 play 52 lowest 10", "thirds 0 96, result 44, radli 2 1, score 2 -36, score 0 44");
+        EDGES.shows(FIRST + "deal 244 bid 0 2 0 0 call 1 take 1 discard 8 9 announce 1 lowest 22 play 36 lowest 6 "
+            + "play 40 lowest 4 play 45 lowest 1 play 48 lowest 11", "thirds 0 104, result 0, radli 2 1, radli 0 1");
+    }
+
     private static void twoRadliDoubleOnce() {
         EDGES.sentence("26: with more of the radli it is doubled just once, and one of them is lost");
         EDGES.shows(SECOND, "radli 0 2, radli 1 2, radli 2 2, radli 3 2, result -116");
@@ -212,7 +233,8 @@ public final class EdgesOfScoresTest {
         EDGES.shows(SECOND + WON_WITH_TWO + WON_WITH_ONE, "declarer 2, result 80, radli 2 0, radli 0 2, radli 3 2");
         EDGES.shows(SECOND + "deal 50023 bid 3 0 0 0 call 2 take 3 discard 1 lowest 48",
             "declarer 2, result -62, radli 2 2, radli 3 2");
-        EDGES.shows(SECOND + "deal 20418 bid 0 5 0 0 lowest 48", "declarer 3, result 160, radli 3 2, radli 0 3, radli 2 3");
+        EDGES.shows(SECOND + "deal 20418 bid 0 5 0 0 lowest 48", "declarer 3, result 160, radli 3 2, radli 0 3, "
+            + "radli 2 3");
     }
 
     private static void radliOfOthersDoNotDouble() {
@@ -269,8 +291,8 @@ public final class EdgesOfScoresTest {
 
     private static void scoredAfterTwelveTricks() {
         EDGES.sentence("Scores: after 12 tricks the deal is OVER, and is scored");
-        EDGES.shows("deal 500 bid 0 0 5 0 lowest 44", "tricks 11, result 0, score 2 0, lowest 3 3, result 0, score 2 0, "
-            + "radli 2 0, lowest 1 1, tricks 12, phase 0, result -80, score 2 -80, radli 2 1");
+        EDGES.shows("deal 500 bid 0 0 5 0 lowest 44", "tricks 11, result 0, score 2 0, lowest 3 3, result 0, "
+            + "score 2 0, radli 2 0, lowest 1 1, tricks 12, phase 0, result -80, score 2 -80, radli 2 1");
     }
 
     /** 84 deals at level 5, three of which are won, and eight looks: 512 calls. */

@@ -153,8 +153,8 @@ public final class EdgesOfTheTalonTest {
     private static void groupsInAnotherPhase() {
         EDGES.sentence("5: no such group, of the groups of 1 card, in another phase");
         String[] otherPhases = {"", "deal 0", "deal 0 bid 1", "deal 0 bid 0 0 0 0", LEVEL_1, LEVEL_2, LEVEL_3,
-            TAKING[1] + "take 0", TAKING[2] + "take 0", TAKING[4] + "take 0", TAKING[1] + "take 0 discard 0 6 8", LEVEL_5,
-            LEVEL_5 + "lowest 48", TAKING[1] + "take 1 discard 6 21 12 lowest 48"};
+            TAKING[1] + "take 0", TAKING[2] + "take 0", TAKING[4] + "take 0", TAKING[1] + "take 0 discard 0 6 8",
+            LEVEL_5, LEVEL_5 + "lowest 48", TAKING[1] + "take 1 discard 6 21 12 lowest 48"};
         for (String ahead : otherPhases) {
             EDGES.badState(ahead, "take 0");
             EDGES.badState(ahead, "take 2");
@@ -290,7 +290,8 @@ public final class EdgesOfTheTalonTest {
     }
 
     private static void whatBelongsToTheSides() {
-        EDGES.sentence("6: these belong to the declarer's side; the rest of the talon (at level 5 all of it) to the other");
+        EDGES.sentence("6: these belong to the declarer's side; the rest of the talon (at level 5 all of it) to the "
+            + "other");
         EDGES.shows(TAKING[1] + "take 0 discard 0 47", "thirds 0 0, thirds 1 0, byPacks 0 0, byPacks 1 0");
         EDGES.shows(TAKING[1] + "take 0 discard 0 47 37", "thirds 0 3, thirds 1 15, byPacks 0 1, byPacks 1 5");
         EDGES.shows(TAKING[1] + "take 1 discard 6 21 12", "thirds 0 21, thirds 1 15, byPacks 0 7, byPacks 1 5");

@@ -55,15 +55,14 @@ final class Game {
     }
 
     static void bidAlone(TarockHall hall, int declarer, int level) {
-        while (hall.phase() == TarockHall.BIDDING) {
+        for (int k = 0; k < 4 && hall.phase() == TarockHall.BIDDING; k++) {
             hall.bid(hall.turn() == declarer && hall.level() == 0 ? level : 0);
         }
     }
 
     static void layAwayLowest(TarockHall hall) {
-        int left = 1;
-        while (left > 0) {
-            left = hall.discard(lowestToLayAway(hall.hand(hall.declarer())));
+        for (int k = 0; k < 3 && hall.phase() == TarockHall.DISCARDING; k++) {
+            hall.discard(lowestToLayAway(hall.hand(hall.declarer())));
         }
     }
 
@@ -87,7 +86,7 @@ final class Game {
 
     /** Each plays the lowest card that can be played, but one that is held back only when there is no other. */
     static void playAllHoldingBack(TarockHall hall, long heldBack) {
-        while (hall.phase() == TarockHall.PLAYING) {
+        for (int k = 0; k < 48 && hall.phase() == TarockHall.PLAYING; k++) {
             long can = playable(hall.hand(hall.turn()), hall.inTrick() == 0 ? TarockHall.NONE : hall.trickAt(0));
             long first = (can & ~heldBack) != 0 ? can & ~heldBack : can;
             hall.play(Long.numberOfTrailingZeros(first));

@@ -94,14 +94,22 @@ final class Script {
         for (int k = 0; k < 4 && hall.phase() == TarockHall.BIDDING; k++) {
             note(answers, hall, "bid 0");
         }
-        note(answers, hall, "call 1");
-        note(answers, hall, "take 0");
+        if (hall.phase() == TarockHall.CALLING) {
+            note(answers, hall, "call 1");
+        }
+        if (hall.phase() == TarockHall.TAKING) {
+            note(answers, hall, "take 1");
+        }
         for (int k = 0; k < 3 && hall.phase() == TarockHall.DISCARDING; k++) {
             note(answers, hall, "discard " + Game.lowestToLayAway(hall.hand(hall.declarer())));
         }
-        note(answers, hall, "announce 0");
-        note(answers, hall, "announce 1");
-        note(answers, hall, "lowest 48");
+        if (hall.phase() == TarockHall.PLAYING) {
+            answers.append(Answers.ofState(hall));
+            note(answers, hall, "announce 0");
+            note(answers, hall, "announce 1");
+            note(answers, hall, "lowest 48");
+        }
+        answers.append(Answers.ofState(hall));
         note(answers, hall, "deal 12345");
         return answers.append(Answers.ofState(hall)).toString();
     }
